@@ -310,20 +310,29 @@ public final class GrantKernel {
 
     /** Does what instruction w does, but for counter and row. Answers its fault, with nothing done. */
     private int perform(int t, int w) {
-        int op = opOf(w);
-        if (op <= OP_XOR) {
-            return compute(tasks[t], w);
+        switch (opOf(w)) {
+            case OP_LOAD:
+            case OP_STORE:
+                return access(tasks[t], w);
+            case OP_PRINT:
+                return printBy(t, w);
+            case OP_SEND:
+            case OP_CALL:
+                return sendBy(t, w);
+            case OP_RECEIVE:
+                return receiveBy(t, w);
+            case OP_ANSWER:
+                return answerCaller(tasks[t], w);
+            case OP_MINT:
+                return mintInto(t, w);
+            case OP_REMOVE:
+            case OP_REVOKE:
+                return takeBack(t, w);
+            case OP_HAS:
+                return lookIntoSlot(t, w);
+            default:
+                return compute(tasks[t], w);
         }
-        if (op <= OP_STORE) {
-            return access(tasks[t], w);
-        }
-        if (op <= OP_YIELD) {
-            return NO_FAULT;
-        }
-        if (op <= OP_ANSWER) {
-            return talk(t, w);
-        }
-        return op <= OP_HAS ? manage(t, w) : BAD_OP;
     }
 
     private static int compute(Task me, int w) {
@@ -334,36 +343,40 @@ public final class GrantKernel {
         switch (opOf(w)) {
             case OP_HALT:
                 me.state = HALTED;
-                break;
+                return NO_FAULT;
             case OP_SET:
                 registers[a] = numberOf(w);
-                break;
+                return NO_FAULT;
             case OP_COPY:
                 registers[a] = b;
-                break;
+                return NO_FAULT;
             case OP_ADD:
                 registers[a] = b + c;
-                break;
+                return NO_FAULT;
             case OP_SUBTRACT:
                 registers[a] = b - c;
-                break;
+                return NO_FAULT;
             case OP_MULTIPLY:
                 registers[a] = b * c;
-                break;
+                return NO_FAULT;
             case OP_AND:
                 registers[a] = b & c;
-                break;
+                return NO_FAULT;
             case OP_XOR:
                 registers[a] = b ^ c;
-                break;
+                return NO_FAULT;
+            case OP_GO:
+            case OP_GO_IF_ZERO:
+            case OP_GO_IF_BELOW:
+            case OP_YIELD:
+                return NO_FAULT;
             default:
-                break;
+                return BAD_OP;
         }
-        return NO_FAULT;
     }
 
     private int access(Task me, int w) {
-        // A sum of ints could wrap to a good address.
+        // The document takes this sum exactly, so it must not wrap.
         long address = (long) me.registers[fieldB(w)] + numberOf(w);
         if (!me.isGood(address)) {
             return BAD_ADDRESS;
@@ -377,69 +390,52 @@ public final class GrantKernel {
         return NO_FAULT;
     }
 
-    private int talk(int t, int w) {
-        int op = opOf(w);
-        if (op == OP_ANSWER) {
-            answerCaller(tasks[t], w);
-            return NO_FAULT;
-        }
-        int place = slotPlace(t, fieldA(w));
-        if (!grants.allows(place, op == OP_PRINT ? CONSOLE : ENDPOINT, rightsNeeded(w))) {
+    private int printBy(int t, int w) {
+        if (!grants.allows(slotPlace(t, fieldA(w)), CONSOLE, RIGHT_SEND)) {
             return BAD_CAPABILITY;
         }
-        if (op == OP_PRINT) {
-            tape.append(tasks[t].registers[fieldB(w)]);
-        } else if (op == OP_RECEIVE) {
-            receiveAt(endpointLines[grants.objectAt(place)], t, w);
-        } else {
-            sendAt(endpointLines[grants.objectAt(place)], t, w);
-        }
+        tape.append(tasks[t].registers[fieldB(w)]);
         return NO_FAULT;
     }
 
-    private static int rightsNeeded(int w) {
-        int op = opOf(w);
-        if (op == OP_RECEIVE) {
-            return RIGHT_RECEIVE;
+    /** SEND and CALL. */
+    private int sendBy(int t, int w) {
+        int place = slotPlace(t, fieldA(w));
+        int needed = isNumberOdd(w) ? RIGHT_SEND + RIGHT_GRANT : RIGHT_SEND;
+        if (!grants.allows(place, ENDPOINT, needed)) {
+            return BAD_CAPABILITY;
         }
-        return op != OP_PRINT && isNumberOdd(w) ? RIGHT_SEND + RIGHT_GRANT : RIGHT_SEND;
-    }
-
-    private void answerCaller(Task me, int w) {
-        int waiting = me.caller;
-        if (waiting == NONE) {
-            return;
-        }
-        tasks[waiting].registers[fieldB(tasks[waiting].request)] = me.registers[fieldB(w)];
-        makeReady(waiting);
-        me.caller = NONE;
-    }
-
-    private void sendAt(Line line, int t, int w) {
         Task me = tasks[t];
         me.request = w;
         me.word = me.registers[fieldB(w)];
+        Line line = endpointLines[grants.objectAt(place)];
         int receiver = takeWaiting(line, RECEIVING);
         if (receiver == NONE) {
             me.state = SENDING;
             line.append(t);
-            return;
+            return NO_FAULT;
         }
         pass(t, receiver);
         makeReady(receiver);
         if (opOf(w) == OP_CALL) {
             me.state = ANSWERED_LATER;
         }
+        return NO_FAULT;
     }
 
-    private void receiveAt(Line line, int t, int w) {
+    private int receiveBy(int t, int w) {
+        int place = slotPlace(t, fieldA(w));
+        if (!grants.allows(place, ENDPOINT, RIGHT_RECEIVE)) {
+            return BAD_CAPABILITY;
+        }
         Task me = tasks[t];
         me.request = w;
+        Line line = endpointLines[grants.objectAt(place)];
         int sender = takeWaiting(line, SENDING);
         if (sender == NONE) {
             me.state = RECEIVING;
             line.append(t);
-            return;
+            return NO_FAULT;
         }
         pass(sender, t);
         if (opOf(tasks[sender].request) == OP_CALL) {
@@ -447,6 +443,7 @@ public final class GrantKernel {
         } else {
             makeReady(sender);
         }
+        return NO_FAULT;
     }
 
     /** Takes the first of the line out of it if the line waits in this state, else answers NONE. */
@@ -462,34 +459,60 @@ public final class GrantKernel {
     private void pass(int sender, int receiver) {
         Task from = tasks[sender];
         Task to = tasks[receiver];
+        int source = slotPlace(sender, fieldC(from.request));
+        int target = slotPlace(receiver, fieldC(to.request));
+        boolean granted = isNumberOdd(from.request) && grants.holds(source) && !grants.holds(target);
+        if (granted) {
+            grants.derive(target, source, ALL_RIGHTS);
+        }
+        // Register 7 comes last: it tells of the grant even when the word went there too.
         to.registers[fieldB(to.request)] = from.word;
-        boolean granted = isNumberOdd(from.request) && grants.copyInto(
-            slotPlace(receiver, fieldC(to.request)), slotPlace(sender, fieldC(from.request)));
         to.registers[GRANT_REGISTER] = granted ? 1 : 0;
         if (opOf(from.request) == OP_CALL) {
             to.caller = sender;
         }
     }
 
-    private int manage(int t, int w) {
-        int op = opOf(w);
-        int placeA = slotPlace(t, fieldA(w));
-        int placeB = slotPlace(t, fieldB(w));
-        if (op == OP_HAS) {
-            tasks[t].registers[fieldA(w)] = grants.holds(placeB) ? 1 : 0;
-            return NO_FAULT;
+    private int answerCaller(Task me, int w) {
+        int waiting = me.caller;
+        if (waiting != NONE) {
+            Task other = tasks[waiting];
+            other.registers[fieldB(other.request)] = me.registers[fieldB(w)];
+            makeReady(waiting);
+            me.caller = NONE;
         }
-        if (!grants.holds(placeA)) {
+        return NO_FAULT;
+    }
+
+    private int mintInto(int t, int w) {
+        int source = slotPlace(t, fieldA(w));
+        int target = slotPlace(t, fieldB(w));
+        if (!grants.holds(source)) {
             return BAD_CAPABILITY;
         }
-        if (op == OP_MINT) {
-            return grants.derive(placeB, placeA, numberOf(w)) ? NO_FAULT : SLOT_TAKEN;
+        if (grants.holds(target)) {
+            return SLOT_TAKEN;
         }
-        if (op == OP_REMOVE) {
-            grants.removeAt(placeA);
+        grants.derive(target, source, numberOf(w));
+        return NO_FAULT;
+    }
+
+    /** The removal of a capability, and REVOKE. */
+    private int takeBack(int t, int w) {
+        int place = slotPlace(t, fieldA(w));
+        if (!grants.holds(place)) {
+            return BAD_CAPABILITY;
+        }
+        if (opOf(w) == OP_REMOVE) {
+            grants.removeAt(place);
         } else {
-            grants.revokeBelow(placeA);
+            grants.revokeBelow(place);
         }
+        return NO_FAULT;
+    }
+
+    private int lookIntoSlot(int t, int w) {
+        tasks[t].registers[fieldA(w)] = grants.holds(slotPlace(t, fieldB(w))) ? 1 : 0;
         return NO_FAULT;
     }
 
@@ -604,18 +627,9 @@ public final class GrantKernel {
             fill(place, EMPTY, 0, 0, NONE);
         }
 
-        /** Answers false, and does nothing, when the place is taken. */
-        boolean derive(int place, int parent, int mask) {
-            if (holds(place)) {
-                return false;
-            }
+        /** The parent must be there, and the place empty. */
+        void derive(int place, int parent, int mask) {
             fill(place, kinds[parent], objects[parent], rights[parent] & mask, parent);
-            return true;
-        }
-
-        /** Answers false, and does nothing, when there is no parent or the place is taken. */
-        boolean copyInto(int place, int parent) {
-            return holds(parent) && derive(place, parent, ALL_RIGHTS);
         }
 
         void removeAt(int place) {

@@ -17,6 +17,7 @@ public final class CapabilityTest {
         reapHandsChildrenUp();
         slotUsedAgainIsNoParent();
         longChain();
+        firstAndLastPlace();
         CHECK.finish();
     }
 
@@ -287,5 +288,47 @@ public final class CapabilityTest {
         due("reap the first", x.reap(0), true);
         due("nothing above any more", x.capability(2, 0, 3), -1);
         due("the rest stays", x.descendants(2, 0), 11);
+    }
+
+    /** Slot 0 of thread 0 and slot 7 of thread 5, each with a child of it below. */
+    private static GrantKernel ends(int last) {
+        GrantKernel x = new GrantKernel(8);
+        Code.start(x, 0, Code.mint(1, 0, 7), Code.mint(0, 4, 7), Code.sendWith(2, 1, 0), last, Code.HALT);
+        for (int t = 1; t < 5; t++) {
+            Code.start(x, 10, Code.HALT);
+        }
+        Code.start(x, 20, Code.receive(0, 1, 7), Code.mint(7, 6, 7), Code.HALT);
+        x.give(0, 1, 2, 0, 7);
+        x.give(0, 2, 1, 0, 5);
+        x.give(5, 0, 1, 0, 2);
+        x.step(10);
+        return x;
+    }
+
+    private static void firstAndLastPlace() {
+        GrantKernel x = ends(Code.revoke(1));
+        due("parent of the first", x.capability(0, 0, 3), 1);
+        due("parent of the last", x.capability(5, 7, 3), 0);
+        due("parent below the last", x.capability(5, 6, 3), 47);
+        due("below all", x.descendants(0, 1), 4);
+        due("below the first", x.descendants(0, 0), 3);
+        due("below the last", x.descendants(5, 7), 1);
+        x.step(1);
+        due("revoked: the first", x.capability(0, 0, 0), -1);
+        due("revoked: the last", x.capability(5, 7, 0), -1);
+        due("revoked: the one before", x.capability(5, 6, 0), -1);
+        due("revoked: below the first", x.capability(0, 4, 0), -1);
+        due("revoked: itself stays", x.descendants(0, 1), 0);
+        GrantKernel y = ends(Code.remove(1));
+        y.step(1);
+        due("removed: the first has none above", y.capability(0, 0, 3), -1);
+        due("removed: the rest hangs on", y.descendants(0, 0), 3);
+        GrantKernel z = ends(Code.remove(0));
+        z.step(1);
+        due("removed: the last handed up", z.capability(5, 7, 3), 1);
+        due("removed: below the first handed up", z.capability(0, 4, 3), 1);
+        z.step(50);
+        due("reap the last thread", z.reap(5), true);
+        due("one left below", z.descendants(0, 1), 1);
     }
 }

@@ -15,6 +15,7 @@ public final class InstructionTest {
         unknownOps();
         fieldsAreReadFromTheWord();
         changesItself();
+        someLeaveTheRegisters();
         CHECK.finish();
     }
 
@@ -190,5 +191,20 @@ public final class InstructionTest {
         due("runs what it wrote", x.step(50), 3);
         due("what it wrote did", x.register(0, 5), 123);
         due("halted", x.state(0), 6);
+    }
+
+    private static void someLeaveTheRegisters() {
+        for (int op : new int[] {0, 10, 11, 12, 13, 18, 23, 31}) {
+            GrantKernel x = new GrantKernel(8);
+            Code.start(x, 0, Code.word(op, 3, 4, 5, 2), 0, 0);
+            for (int r = 0; r < 8; r++) {
+                x.put(0, r, 40 + r);
+            }
+            x.step(1);
+            for (int r = 0; r < 8; r++) {
+                due("op " + op + " leaves register " + r, x.register(0, r), 40 + r);
+            }
+            due("op " + op + " leaves memory", x.peek(2), 0);
+        }
     }
 }
