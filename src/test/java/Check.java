@@ -1,6 +1,9 @@
 /** Compares answers with those that are due, tells the wrong ones, and ends a test program. */
 final class Check {
     private final String test;
+    private String sentence = "";
+    private int lookedBefore;
+    private int sentences;
     private int looked;
     private int wrong;
 
@@ -8,11 +11,32 @@ final class Check {
         this.test = test;
     }
 
+    /** The sentence of the document that the answers from here on are about. */
+    void says(String words) {
+        endSentence();
+        sentence = words;
+        sentences++;
+        lookedBefore = looked;
+    }
+
+    private void endSentence() {
+        // A sentence that nothing was held against would only seem to be tested.
+        if (sentences != 0 && looked == lookedBefore) {
+            wrong++;
+            System.out.println(test + ": nothing was looked at for \"" + sentence + "\"");
+        }
+    }
+
+    private void tell(String what) {
+        String about = sentence.isEmpty() ? "" : "\"" + sentence + "\": ";
+        System.out.println(test + ": " + about + what);
+    }
+
     void due(String what, long got, long want) {
         looked++;
         if (got != want) {
             wrong++;
-            System.out.println(test + ": " + what + " answered " + got + ", due is " + want);
+            tell(what + " answered " + got + ", due is " + want);
         }
     }
 
@@ -24,7 +48,7 @@ final class Check {
         looked++;
         if (!got.equals(want)) {
             wrong++;
-            System.out.println(test + ": " + what + " answered\n  " + got + "\ndue is\n  " + want);
+            tell(what + " answered\n  " + got + "\ndue is\n  " + want);
         }
     }
 
@@ -33,7 +57,9 @@ final class Check {
     }
 
     void finish() {
-        System.out.println(test + ": " + looked + " answers, " + wrong + " wrong");
+        endSentence();
+        String about = sentences == 0 ? "" : sentences + " sentences, ";
+        System.out.println(test + ": " + about + looked + " answers, " + wrong + " wrong");
         if (wrong != 0 || looked == 0) {
             System.exit(1);
         }
