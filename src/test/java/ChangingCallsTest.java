@@ -328,7 +328,8 @@ public final class ChangingCallsTest {
         CHECK.due("halted", Picture.changes(Scene::busy, x -> x.reap(5)), "state 5: 6 -> 0; counter 5: 2 -> -1"
             + registersGone(5) + "; slot 5.0: (2 0 7 -1) -> empty; below 5.0: 0 -> -1");
         CHECK.due("faulted", Picture.changes(Scene::busy, x -> x.reap(4)),
-            "state 4: 5 -> 0; fault 4: 3 -> 0; counter 4: 2 -> -1" + registersGone(4) + "; slot 4.0: (2 0 7 -1) -> empty; below 4.0: 1 -> -1"
+            "state 4: 5 -> 0; fault 4: 3 -> 0; counter 4: 2 -> -1"
+            + registersGone(4) + "; slot 4.0: (2 0 7 -1) -> empty; below 4.0: 1 -> -1"
             + "; slot 4.1: (2 0 1 32) -> empty; below 4.1: 0 -> -1");
         for (int fault = 1; fault <= 5; fault++) {
             GrantKernel x = faulted(fault);

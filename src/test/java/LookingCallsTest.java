@@ -171,12 +171,14 @@ public final class LookingCallsTest {
         for (int t : NO_THREAD) {
             due("caller " + t, Scene.busy().caller(t), -1);
         }
-        GrantKernel x = called(0, 5);
-        x.poke(11, 31);
-        x.step(50);
-        due("faulted, it has it still", x.caller(5), 0);
-        x.reap(5);
-        due("free", x.caller(5), -1);
+        for (int last : new int[] {31, Code.HALT}) {
+            GrantKernel x = called(0, 5);
+            x.poke(11, last);
+            x.step(50);
+            due("faulted or halted, it has it still", x.caller(5), 0);
+            x.reap(5);
+            due("free", x.caller(5), -1);
+        }
         due("never spawned", new GrantKernel(1).caller(0), -1);
     }
 

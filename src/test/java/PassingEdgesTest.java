@@ -391,6 +391,11 @@ public final class PassingEdgesTest {
             filled.step(1);
             CHECK.due("filled while it was receiving", Picture.capability(filled, 0, 5), "(1 1 1 -1)");
             due("and nothing came", filled.register(0, 7), 0);
+            GrantKernel changed = after(Code.receive(0, 4, 5), send);
+            changed.poke(0, Code.receive(0, 4, 6));
+            changed.step(1);
+            CHECK.due("the slot of the RECEIVE as it was begun", Picture.capability(changed, 0, 5), "(2 0 5 11)");
+            CHECK.due("and not another one", Picture.capability(changed, 0, 6), "empty");
         }
     }
 
