@@ -1,6 +1,7 @@
 /**
  * Runs of 512 calls, made by a fixed sequence of numbers, on the class and on the plain model of the
- * document side by side: every answer of one must be that of the other. All promises come up.
+ * document side by side: every answer of one must be that of the other. All promises come up. Every
+ * third run is shorter and ends with a look at whether the document's terms hold.
  */
 public final class RandomRunsTest {
     private static final int RUNS = 12000;
@@ -99,7 +100,9 @@ public final class RandomRunsTest {
     }
 
     private void calls() {
-        for (int call = 0; call < CALLS && CHECK.wrongSoFar() < MOST_TOLD; call++) {
+        boolean looksAtTerms = run % 3 == 0;
+        int calls = looksAtTerms ? CALLS - Terms.CALLS : CALLS;
+        for (int call = 0; call < calls && CHECK.wrongSoFar() < MOST_TOLD; call++) {
             if (call < 56) {
                 prepare(call);
             } else if (newest != -1 && nextSlot < 3) {
@@ -110,6 +113,9 @@ public final class RandomRunsTest {
             } else {
                 look();
             }
+        }
+        if (looksAtTerms) {
+            Terms.hold(CHECK, "run " + run + ", the terms", kernel);
         }
     }
 
